@@ -1,0 +1,1 @@
+public final class TextTest { public static void main(String[] a) { } }
