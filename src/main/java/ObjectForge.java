@@ -446,8 +446,10 @@ public final class ObjectForge {
 
         /** The operation that a token names, without regard to its operands; null if none. */
         static Operation named(Source source, int token) {
+            int length = source.valueOf(token);
             for (int i = 0; i < ALL.length; i++) {
-                if (source.spells(token, ALL[i].spelling)) {
+                if (ALL[i].spelling.length() == length
+                        && source.spells(token, ALL[i].spelling)) {
                     return ALL[i];
                 }
             }
@@ -471,20 +473,21 @@ public final class ObjectForge {
 
     /**
      * The directives: the section that one begins (NONE without), how many bytes each of its
-     * numbers has (its place is a multiple of that), and whether it tells bytes, as BSS has none.
+     * numbers has (its place is a multiple of that), whether it tells bytes, as BSS has none, and
+     * whether it takes several operands.
      */
     private enum Directive {
-        TEXT_FROM_NOW(".text", TEXT, 1, false),
-        DATA_FROM_NOW(".data", DATA, 1, false),
-        BSS_FROM_NOW(".bss", BSS, 1, false),
-        GLOBL(".globl", NONE, 1, false),
-        WORD(".word", NONE, 4, true),
-        HALF(".half", NONE, 2, true),
-        BYTE(".byte", NONE, 1, true),
-        SPACE(".space", NONE, 1, false),
-        ALIGN(".align", NONE, 1, false),
-        ASCII(".ascii", NONE, 1, true),
-        ASCIIZ(".asciiz", NONE, 1, true);
+        TEXT_FROM_NOW(".text", TEXT, 1, false, false),
+        DATA_FROM_NOW(".data", DATA, 1, false, false),
+        BSS_FROM_NOW(".bss", BSS, 1, false, false),
+        GLOBL(".globl", NONE, 1, false, true),
+        WORD(".word", NONE, 4, true, true),
+        HALF(".half", NONE, 2, true, true),
+        BYTE(".byte", NONE, 1, true, true),
+        SPACE(".space", NONE, 1, false, false),
+        ALIGN(".align", NONE, 1, false, false),
+        ASCII(".ascii", NONE, 1, true, true),
+        ASCIIZ(".asciiz", NONE, 1, true, true);
 
         private static final Directive[] ALL = values();
 
@@ -492,12 +495,14 @@ public final class ObjectForge {
         final int section;
         final int width;
         final boolean tellsBytes;
+        final boolean isList;
 
-        Directive(String spelling, int section, int width, boolean tellsBytes) {
+        Directive(String spelling, int section, int width, boolean tellsBytes, boolean isList) {
             this.spelling = spelling;
             this.section = section;
             this.width = width;
             this.tellsBytes = tellsBytes;
+            this.isList = isList;
         }
 
         static Directive named(Source source, int token) {
@@ -1052,16 +1057,21 @@ public final class ObjectForge {
                 fault = FAULT_PLACE;
                 return;
             }
-            if (directive == Directive.SPACE || directive == Directive.ALIGN) {
-                readZeros(directive == Directive.SPACE);
-                return;
-            }
-            for (int i = 0; i < TEXT_LIMIT; i++) {
-                readItem(directive);
-                if (fault != 0 || source.kindOf(cursor) != ',') {
-                    return;
+            boolean more = true;
+            for (int i = 0; i < TEXT_LIMIT && more; i++) {
+                if (directive == Directive.SPACE || directive == Directive.ALIGN) {
+                    readZeros(directive == Directive.SPACE);
+                } else if (directive == Directive.GLOBL) {
+                    readGlobal();
+                } else if (directive == Directive.ASCII || directive == Directive.ASCIIZ) {
+                    readString(directive == Directive.ASCIIZ);
+                } else {
+                    readNumberItem(directive);
                 }
-                cursor++;
+                more = fault == 0 && directive.isList && source.kindOf(cursor) == ',';
+                if (more) {
+                    cursor++;
+                }
             }
         }
 
@@ -1074,22 +1084,6 @@ public final class ObjectForge {
             int many = asTold ? told : -draft.sizes[section] & ((1 << told) - 1);
             if (!draft.appendZeros(section, many)) {
                 fault = FAULT_MANY;
-            }
-        }
-
-        private void readItem(Directive directive) {
-            if (directive == Directive.GLOBL) {
-                readGlobal();
-            } else if (directive == Directive.ASCII || directive == Directive.ASCIIZ) {
-                readString(directive == Directive.ASCIIZ);
-            } else if (directive == Directive.WORD) {
-                readWordItem();
-            } else if (directive == Directive.HALF) {
-                readBounded(-32768, 65535);
-                emit((int) number, 2);
-            } else {
-                readBounded(-128, 255);
-                emit((int) number, 1);
             }
         }
 
@@ -1127,17 +1121,20 @@ public final class ObjectForge {
             cursor++;
         }
 
-        private void readWordItem() {
-            readPlain(WITH_NUMBER | WITH_NAME);
-            if (fault != 0) {
-                return;
+        private void readNumberItem(Directive directive) {
+            if (directive == Directive.WORD) {
+                readPlain(WITH_NUMBER | WITH_NAME);
+            } else if (directive == Directive.HALF) {
+                readBounded(-32768, 65535);
+            } else {
+                readBounded(-128, 255);
             }
-            if (nameToken == NONE) {
-                emit((int) number, 4);
-                return;
+            if (fault == 0 && nameToken != NONE) {
+                symbolNumber = numberSymbol(nameToken);
+                emitWord(0, KIND_WORD);
+            } else {
+                emit((int) number, directive.width);
             }
-            symbolNumber = numberSymbol(nameToken);
-            emitWord(0, KIND_WORD);
         }
 
         /** An EXPRESSION: a NUMBER; a NAME, perhaps + or - and a NUMBER without a sign. */
@@ -1275,10 +1272,13 @@ public final class ObjectForge {
             }
         }
 
-        private int takeRegister(int kind) {
-            int found = source.valueOf(cursor) & 31;
-            take(kind);
-            return found;
+        private int takeRegister(int wanted) {
+            int kind = source.kindOf(cursor);
+            if (fault == 0 && kind != wanted) {
+                fault = misplaced(kind);
+            }
+            cursor++;
+            return source.valueOf(cursor - 1) & 31;
         }
 
         private void readValueOperand(char letter) {
@@ -1299,16 +1299,20 @@ public final class ObjectForge {
                     readPlain(WITH_NUMBER);
                     break;
                 case 'h':
-                    readField(31, 6);
+                    readBounded(0, 31);
+                    others |= (int) number << 6;
                     break;
                 case 'c':
-                    readField(0xFFFFF, 6);
+                    readBounded(0, 0xFFFFF);
+                    others |= (int) number << 6;
                     break;
                 case 'k':
-                    readField(7, 18);
+                    readBounded(0, 7);
+                    others |= (int) number << 18;
                     break;
                 case 'q':
-                    readField(7, 8);
+                    readBounded(0, 7);
+                    others |= (int) number << 8;
                     break;
                 case 'i':
                     readValue(WITH_NUMBER | WITH_LOW);
@@ -1325,14 +1329,6 @@ public final class ObjectForge {
                     readMemoryRest();
                     break;
             }
-        }
-
-        private void readField(int high, int shift) {
-            readPlain(WITH_NUMBER);
-            if (fault == 0 && (number < 0 || number > high)) {
-                fault = FAULT_RANGE;
-            }
-            others |= (int) number << shift;
         }
 
         /** The lower 16 bits of the instruction by the operand that was read. */
@@ -1380,13 +1376,13 @@ public final class ObjectForge {
         private void emitNumberLoad(int value) {
             int low = value & 0xFFFF;
             if (value >= -32768 && value <= 32767) {
-                emitWord(ADDIU | sources | low, 0);
+                emit(ADDIU | sources | low, 4);
             } else if (value >= 0 && value <= 65535) {
-                emitWord(ORI | sources | low, 0);
+                emit(ORI | sources | low, 4);
             } else {
-                emitWord(LUI | sources | value >>> 16, 0);
+                emit(LUI | sources | value >>> 16, 4);
                 if (low != 0) {
-                    emitWord(ORI | sources << 5 | sources | low, 0);
+                    emit(ORI | sources << 5 | sources | low, 4);
                 }
             }
         }

@@ -1,0 +1,218 @@
+/** Promise 4, INSTRUCTIONS: every operation with the word that another assembler makes of it. */
+public final class EncodingTest {
+    private static void row(String text, int word) {
+        Bench.dueWords(" " + text + "\n", word);
+    }
+
+    public static void main(String[] args) {
+        part0();
+        part1();
+        part2();
+        part3();
+        Bench.close("EncodingTest");
+    }
+
+    private static void part0() {
+        row("addu $3,$17,$30", 0x023E1821);
+        row("subu $3,$17,$30", 0x023E1823);
+        row("add $3,$17,$30", 0x023E1820);
+        row("sub $3,$17,$30", 0x023E1822);
+        row("and $3,$17,$30", 0x023E1824);
+        row("or $3,$17,$30", 0x023E1825);
+        row("xor $3,$17,$30", 0x023E1826);
+        row("nor $3,$17,$30", 0x023E1827);
+        row("slt $3,$17,$30", 0x023E182A);
+        row("sltu $3,$17,$30", 0x023E182B);
+        row("movz $3,$17,$30", 0x023E180A);
+        row("movn $3,$17,$30", 0x023E180B);
+        row("mul $3,$17,$30", 0x723E1802);
+        row("sll $3,$17,31", 0x00111FC0);
+        row("srl $3,$17,31", 0x00111FC2);
+        row("sra $3,$17,31", 0x00111FC3);
+        row("sllv $3,$17,$30", 0x03D11804);
+        row("srlv $3,$17,$30", 0x03D11806);
+        row("srav $3,$17,$30", 0x03D11807);
+        row("mult $17,$30", 0x023E0018);
+        row("multu $17,$30", 0x023E0019);
+        row("madd $17,$30", 0x723E0000);
+        row("maddu $17,$30", 0x723E0001);
+        row("msub $17,$30", 0x723E0004);
+        row("msubu $17,$30", 0x723E0005);
+        row("teq $17,$30", 0x023E0034);
+        row("tne $17,$30", 0x023E0036);
+        row("tge $17,$30", 0x023E0030);
+        row("tgeu $17,$30", 0x023E0031);
+        row("tlt $17,$30", 0x023E0032);
+        row("tltu $17,$30", 0x023E0033);
+        row("div $17,$30", 0x023E001A);
+        row("divu $17,$30", 0x023E001B);
+        row("mfhi $17", 0x00008810);
+        row("mflo $17", 0x00008812);
+        row("mthi $17", 0x02200011);
+        row("mtlo $17", 0x02200013);
+        row("jr $17", 0x02200008);
+        row("clz $3,$17", 0x72231820);
+        row("clo $3,$17", 0x72231821);
+        row("jalr $3,$17", 0x02201809);
+        row("addiu $3,$17,-32768", 0x26238000);
+        row("addi $3,$17,-32768", 0x22238000);
+        row("slti $3,$17,-32768", 0x2A238000);
+        row("sltiu $3,$17,-32768", 0x2E238000);
+        row("andi $3,$17,65535", 0x3223FFFF);
+        row("ori $3,$17,65535", 0x3623FFFF);
+        row("xori $3,$17,65535", 0x3A23FFFF);
+    }
+
+    private static void part1() {
+        row("lui $3,65535", 0x3C03FFFF);
+        row("lb $3,-4($17)", 0x8223FFFC);
+        row("lbu $3,-4($17)", 0x9223FFFC);
+        row("lh $3,-4($17)", 0x8623FFFC);
+        row("lhu $3,-4($17)", 0x9623FFFC);
+        row("lw $3,-4($17)", 0x8E23FFFC);
+        row("lwl $3,-4($17)", 0x8A23FFFC);
+        row("lwr $3,-4($17)", 0x9A23FFFC);
+        row("sb $3,-4($17)", 0xA223FFFC);
+        row("sh $3,-4($17)", 0xA623FFFC);
+        row("sw $3,-4($17)", 0xAE23FFFC);
+        row("swl $3,-4($17)", 0xAA23FFFC);
+        row("swr $3,-4($17)", 0xBA23FFFC);
+        row("ll $3,-4($17)", 0xC223FFFC);
+        row("sc $3,-4($17)", 0xE223FFFC);
+        row("lwc1 $f3,-4($17)", 0xC623FFFC);
+        row("swc1 $f3,-4($17)", 0xE623FFFC);
+        row("ldc1 $f30,-4($17)", 0xD63EFFFC);
+        row("sdc1 $f30,-4($17)", 0xF63EFFFC);
+        row("x: beq $3,$17,x", 0x1071FFFF);
+        row("x: bne $3,$17,x", 0x1471FFFF);
+        row("x: beql $3,$17,x", 0x5071FFFF);
+        row("x: bnel $3,$17,x", 0x5471FFFF);
+        row("x: blez $17,x", 0x1A20FFFF);
+        row("x: bgtz $17,x", 0x1E20FFFF);
+        row("x: bltz $17,x", 0x0620FFFF);
+        row("x: bgez $17,x", 0x0621FFFF);
+        row("x: bltzal $17,x", 0x0630FFFF);
+        row("x: bgezal $17,x", 0x0631FFFF);
+        row("x: blezl $17,x", 0x5A20FFFF);
+        row("x: bgtzl $17,x", 0x5E20FFFF);
+        row("x: bltzl $17,x", 0x0622FFFF);
+        row("x: bgezl $17,x", 0x0623FFFF);
+        row("x: bc1f x", 0x4500FFFF);
+        row("x: bc1f 5,x", 0x4514FFFF);
+        row("x: bc1t x", 0x4501FFFF);
+        row("x: bc1t 5,x", 0x4515FFFF);
+        row("x: bc1fl x", 0x4502FFFF);
+        row("x: bc1fl 5,x", 0x4516FFFF);
+        row("x: bc1tl x", 0x4503FFFF);
+        row("x: bc1tl 5,x", 0x4517FFFF);
+        row("mfc1 $3,$f17", 0x44038800);
+        row("mtc1 $3,$f17", 0x44838800);
+        row("nop", 0x00000000);
+        row("sync", 0x0000000F);
+        row("syscall", 0x0000000C);
+        row("break", 0x0000000D);
+        row("syscall 1048575", 0x03FFFFCC);
+    }
+
+    private static void part2() {
+        row("break 1048575", 0x03FFFFCD);
+        row("break 1023", 0x0000FFCD);
+        row("add.s $f4,$f18,$f30", 0x461E9100);
+        row("sub.s $f4,$f18,$f30", 0x461E9101);
+        row("mul.s $f4,$f18,$f30", 0x461E9102);
+        row("div.s $f4,$f18,$f30", 0x461E9103);
+        row("abs.s $f4,$f18", 0x46009105);
+        row("neg.s $f4,$f18", 0x46009107);
+        row("mov.s $f4,$f18", 0x46009106);
+        row("sqrt.s $f4,$f18", 0x46009104);
+        row("trunc.w.s $f4,$f18", 0x4600910D);
+        row("round.w.s $f4,$f18", 0x4600910C);
+        row("ceil.w.s $f4,$f18", 0x4600910E);
+        row("floor.w.s $f4,$f18", 0x4600910F);
+        row("cvt.w.s $f4,$f18", 0x46009124);
+        row("c.f.s $f18,$f30", 0x461E9030);
+        row("c.f.s 6,$f18,$f30", 0x461E9630);
+        row("c.un.s $f18,$f30", 0x461E9031);
+        row("c.un.s 6,$f18,$f30", 0x461E9631);
+        row("c.eq.s $f18,$f30", 0x461E9032);
+        row("c.eq.s 6,$f18,$f30", 0x461E9632);
+        row("c.ueq.s $f18,$f30", 0x461E9033);
+        row("c.ueq.s 6,$f18,$f30", 0x461E9633);
+        row("c.olt.s $f18,$f30", 0x461E9034);
+        row("c.olt.s 6,$f18,$f30", 0x461E9634);
+        row("c.ult.s $f18,$f30", 0x461E9035);
+        row("c.ult.s 6,$f18,$f30", 0x461E9635);
+        row("c.ole.s $f18,$f30", 0x461E9036);
+        row("c.ole.s 6,$f18,$f30", 0x461E9636);
+        row("c.ule.s $f18,$f30", 0x461E9037);
+        row("c.ule.s 6,$f18,$f30", 0x461E9637);
+        row("c.sf.s $f18,$f30", 0x461E9038);
+        row("c.sf.s 6,$f18,$f30", 0x461E9638);
+        row("c.ngle.s $f18,$f30", 0x461E9039);
+        row("c.ngle.s 6,$f18,$f30", 0x461E9639);
+        row("c.seq.s $f18,$f30", 0x461E903A);
+        row("c.seq.s 6,$f18,$f30", 0x461E963A);
+        row("c.ngl.s $f18,$f30", 0x461E903B);
+        row("c.ngl.s 6,$f18,$f30", 0x461E963B);
+        row("c.lt.s $f18,$f30", 0x461E903C);
+        row("c.lt.s 6,$f18,$f30", 0x461E963C);
+        row("c.nge.s $f18,$f30", 0x461E903D);
+        row("c.nge.s 6,$f18,$f30", 0x461E963D);
+        row("c.le.s $f18,$f30", 0x461E903E);
+        row("c.le.s 6,$f18,$f30", 0x461E963E);
+        row("c.ngt.s $f18,$f30", 0x461E903F);
+        row("c.ngt.s 6,$f18,$f30", 0x461E963F);
+        row("add.d $f4,$f18,$f30", 0x463E9100);
+    }
+
+    private static void part3() {
+        row("sub.d $f4,$f18,$f30", 0x463E9101);
+        row("mul.d $f4,$f18,$f30", 0x463E9102);
+        row("div.d $f4,$f18,$f30", 0x463E9103);
+        row("abs.d $f4,$f18", 0x46209105);
+        row("neg.d $f4,$f18", 0x46209107);
+        row("mov.d $f4,$f18", 0x46209106);
+        row("sqrt.d $f4,$f18", 0x46209104);
+        row("trunc.w.d $f4,$f18", 0x4620910D);
+        row("round.w.d $f4,$f18", 0x4620910C);
+        row("ceil.w.d $f4,$f18", 0x4620910E);
+        row("floor.w.d $f4,$f18", 0x4620910F);
+        row("cvt.w.d $f4,$f18", 0x46209124);
+        row("c.f.d $f18,$f30", 0x463E9030);
+        row("c.f.d 6,$f18,$f30", 0x463E9630);
+        row("c.un.d $f18,$f30", 0x463E9031);
+        row("c.un.d 6,$f18,$f30", 0x463E9631);
+        row("c.eq.d $f18,$f30", 0x463E9032);
+        row("c.eq.d 6,$f18,$f30", 0x463E9632);
+        row("c.ueq.d $f18,$f30", 0x463E9033);
+        row("c.ueq.d 6,$f18,$f30", 0x463E9633);
+        row("c.olt.d $f18,$f30", 0x463E9034);
+        row("c.olt.d 6,$f18,$f30", 0x463E9634);
+        row("c.ult.d $f18,$f30", 0x463E9035);
+        row("c.ult.d 6,$f18,$f30", 0x463E9635);
+        row("c.ole.d $f18,$f30", 0x463E9036);
+        row("c.ole.d 6,$f18,$f30", 0x463E9636);
+        row("c.ule.d $f18,$f30", 0x463E9037);
+        row("c.ule.d 6,$f18,$f30", 0x463E9637);
+        row("c.sf.d $f18,$f30", 0x463E9038);
+        row("c.sf.d 6,$f18,$f30", 0x463E9638);
+        row("c.ngle.d $f18,$f30", 0x463E9039);
+        row("c.ngle.d 6,$f18,$f30", 0x463E9639);
+        row("c.seq.d $f18,$f30", 0x463E903A);
+        row("c.seq.d 6,$f18,$f30", 0x463E963A);
+        row("c.ngl.d $f18,$f30", 0x463E903B);
+        row("c.ngl.d 6,$f18,$f30", 0x463E963B);
+        row("c.lt.d $f18,$f30", 0x463E903C);
+        row("c.lt.d 6,$f18,$f30", 0x463E963C);
+        row("c.nge.d $f18,$f30", 0x463E903D);
+        row("c.nge.d 6,$f18,$f30", 0x463E963D);
+        row("c.le.d $f18,$f30", 0x463E903E);
+        row("c.le.d 6,$f18,$f30", 0x463E963E);
+        row("c.ngt.d $f18,$f30", 0x463E903F);
+        row("c.ngt.d 6,$f18,$f30", 0x463E963F);
+        row("cvt.s.d $f4,$f18", 0x46209120);
+        row("cvt.s.w $f4,$f18", 0x46809120);
+        row("cvt.d.s $f4,$f18", 0x46009121);
+        row("cvt.d.w $f4,$f18", 0x46809121);
+    }
+}

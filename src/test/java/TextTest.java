@@ -1,1 +1,0 @@
-public final class TextTest { public static void main(String[] a) { } }
