@@ -870,6 +870,7 @@ public final class ObjectForge {
         final int[] symbols = new int[RELOCATION_LIMIT];
         // As told, since a branch's bounds are asked of more than 32 bits.
         final long[] addends = new long[RELOCATION_LIMIT];
+        // Asked for branches within TEXT alone, so not kept up with the others behind them.
         final int[] lines = new int[RELOCATION_LIMIT];
         int number = 0;
 
@@ -879,7 +880,6 @@ public final class ObjectForge {
             kinds[to] = kinds[from];
             symbols[to] = symbols[from];
             addends[to] = addends[from];
-            lines[to] = lines[from];
         }
     }
 
@@ -1175,7 +1175,6 @@ public final class ObjectForge {
 
         /** An EXPRESSION, or one behind %hi or %lo. */
         private void readValue(int allowed) {
-            half = 0;
             if (source.kindOf(cursor) != '%' || (allowed & (WITH_LOW | WITH_HIGH)) == 0) {
                 readPlain(allowed);
                 return;

@@ -70,6 +70,9 @@ public final class InstructionTest {
 
     private static void memory() {
         Bench.dueWords("lw $1,($2)\nlw $1,0x10($2)\nlw $1,'a'($2)", 0x8C410000, 0x8C410010, 0x8C410061);
+        // Nothing of the line ahead is left.
+        Bench.dueWords("addiu $1,$2,5\nlw $1,($2)\nlui $1,%hi(0x90000)\nlw $1,($2)",
+                0x24410005, 0x8C410000, 0x3C010009, 0x8C410000);
         fault("lw $1,4", Bench.OPERANDS);
         fault("lw $1,4(", Bench.OPERANDS);
         fault("lw $1,4($2", Bench.OPERANDS);
@@ -86,7 +89,8 @@ public final class InstructionTest {
     }
 
     private static void optional() {
-        Bench.dueWords("syscall\nbreak\nsyscall 1", 0x0000000C, 0x0000000D, 0x0000004C);
+        Bench.dueWords("syscall\nbreak\nsyscall 1\nbreak 0", 0x0000000C, 0x0000000D, 0x0000004C,
+                0x0000000D);
         Bench.dueWords("x: bc1t 0,x\nbc1t 7,x", 0x4501FFFF, 0x451DFFFE);
         Bench.dueWords("c.lt.s 0,$f1,$f2\nc.lt.s 7,$f1,$f2", 0x4602083C, 0x46020F3C);
         fault("syscall x", Bench.OPERANDS);

@@ -71,7 +71,7 @@ public final class LineTest {
         }
         Bench.dueWords("jr $s8", 8 | 30 << 21);
         String[] none = {"$", "$ 1", "$32", "$00", "$01", "$031", "$100", "$zeroo", "$s9", "$t10",
-            "$ZERO", "$1x", "$x", "$-1", "$a4", "$k2", "$v2", "$f", "$zer", "$_"};
+            "$ZERO", "$1x", "$1.", "$2_", "$x", "$-1", "$a4", "$k2", "$v2", "$f", "$zer", "$_"};
         for (String text : none) {
             fault("jr " + text, Bench.BYTE);
             fault("nop " + text, Bench.BYTE);
@@ -85,7 +85,7 @@ public final class LineTest {
         for (int i = 0; i < 32; i++) {
             Bench.dueWords("mov.s $f" + i + ",$f" + (31 - i), 0x46000006 | i << 6 | (31 - i) << 11);
         }
-        for (String text : new String[] {"$f32", "$f00", "$f01", "$f1x", "$f-1", "$F1", "$f 1"}) {
+        for (String text : new String[] {"$f32", "$f00", "$f01", "$f1x", "$f1.", "$f-1", "$F1", "$f 1"}) {
             fault("mov.s $f1," + text, Bench.BYTE);
         }
         fault("mov.s $f1,$1", Bench.OPERANDS);
@@ -101,7 +101,7 @@ public final class LineTest {
         Bench.dueData(".data\n.word 0xabcdef,0xABCDEF,-0\n",
                 0, 0xAB, 0xCD, 0xEF, 0, 0xAB, 0xCD, 0xEF, 0, 0, 0, 0);
         String[] none = {"4294967296", "0x100000000", "99999999999999999999999999", "0x", "0xg",
-            "0X1", "12ab", "1_", "0x1g", "-2147483649", "-4294967295", "-0x80000001", "-", "-x",
+            "0X1", "12ab", "1a", "1f", "0x1.", "1_", "0x1g", "-2147483649", "-4294967295", "-0x80000001", "-", "-x",
             "-$1", "--1", "-\"a\""};
         for (String text : none) {
             fault(".word " + text, Bench.BYTE);

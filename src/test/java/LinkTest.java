@@ -146,6 +146,7 @@ public final class LinkTest {
     }
 
     private static void nones() {
+        dueFault(of("b Aa", ".globl BB\nBB:"), 0, 2, 0, 0);
         dueFault(of(".globl x"), 0, 2, 0, 0);
         dueFault(of("a: la $1,a\nb b", "b:"), 0, 2, 0, 1);
         dueFault(of("x:", "la $1,x"), 0, 2, 1, 0);

@@ -40,6 +40,11 @@ public final class SymbolTest {
         Bench.due("last letter", bench.forge.letter(0, 0, 4), '9');
         Bench.due("last letter of the longest", bench.forge.letter(0, 1, 23), 'x');
         Bench.due("symbols", bench.forge.count(2, 0), 4);
+        // Names that common sums over letters take for one.
+        Bench twins = Bench.made("Aa: BB: AaBB: BBAa:");
+        Bench.due("twins", twins.forge.count(2, 0), 4);
+        twins.dueSymbol(0, 1, "BB", 0, 0, 0);
+        twins.dueSymbol(0, 3, "BBAa", 0, 0, 0);
         ObjectForge forge = bench.forge;
         Bench.dueIndex("letter behind", () -> forge.letter(0, 0, 5));
         Bench.dueIndex("letter behind the longest", () -> forge.letter(0, 1, 24));
@@ -62,9 +67,10 @@ public final class SymbolTest {
 
     private static void relocations() {
         Bench bench = Bench.made(".data\n.word x-1\n.text\nx: jal y+8\nla $4,x\n.word y\n.data\n"
-                + ".word 5,z\n.text\nb z-4\nb x\nsw $4,z\n.globl z\n");
+                + ".word 5,z\n.text\nb z-4\nb x\nsw $4,z\nb x\n.data\n.word z+12\n.globl z\n");
         int[][] due = {{1, 0, 2, 0, -1}, {0, 0, 4, 1, 8}, {0, 4, 5, 0, 0}, {0, 8, 6, 0, 0},
-            {0, 12, 2, 1, 0}, {1, 8, 2, 2, 0}, {0, 16, 10, 2, -4}, {0, 24, 5, 2, 0}, {0, 28, 6, 2, 0}};
+            {0, 12, 2, 1, 0}, {1, 8, 2, 2, 0}, {0, 16, 10, 2, -4}, {0, 24, 5, 2, 0}, {0, 28, 6, 2, 0},
+            {1, 12, 2, 2, 12}};
         Bench.due("relocations", bench.forge.count(3, 0), due.length);
         for (int k = 0; k < due.length; k++) {
             bench.dueRelocation(0, k, due[k]);

@@ -51,6 +51,7 @@ public final class TextTest {
             forge.feed(0x20202020, 0x20202020, 0x20202020, 0x20202020);
         }
         Bench.due("one is left", forge.count(0, 0), 8176);
+        Bench.dueThrow("end 16 of many", IllegalArgumentException.class, () -> forge.end(16));
         Bench.due("the last one", forge.feed(0x0A0A0A0A, 0x0A0A0A0A, 0x0A0A0A0A, 0x0A0A0A23), 8192);
         Bench.dueThrow("one more", IllegalStateException.class, () -> forge.feed(0, 0, 0, 0));
         Bench.due("as before", forge.count(0, 0), 8192);
