@@ -8,7 +8,7 @@ public final class AnyCallTest {
         "%lo", "(", ")", ",", ",", " ", " ", "\n", "\n", "\n", "#", "@", "\\", "\0", "\u00ff"};
 
     public static void main(String[] args) {
-        for (int run = 0; run < 400; run++) {
+        for (int run = 0; run < 600; run++) {
             long first = answers(run);
             Bench.due("run " + run + " again", answers(run), first);
         }
@@ -19,7 +19,7 @@ public final class AnyCallTest {
         Random random = new Random(run);
         Bench bench = new Bench();
         long sum = 0;
-        for (int i = 0; i < 300; i++) {
+        for (int i = 0; i < 150; i++) {
             if (random.nextInt(4) == 0) {
                 StringBuilder text = new StringBuilder();
                 for (int k = random.nextInt(12); k >= 0; k--) {

@@ -16,15 +16,25 @@ final class Bench {
 
     private static int checks = 0;
     private static int wrong = 0;
+    private static String sentence = "";
 
     ObjectForge forge = new ObjectForge();
+
+    /** The words of the document that the checks from now on are about. */
+    static void about(String words) {
+        sentence = words;
+    }
 
     static void due(String what, long got, long want) {
         checks++;
         if (got != want) {
-            wrong++;
-            System.out.println(what + " answered " + got + ", due is " + want);
+            tellWrong(what + " answered " + got + ", due is " + want);
         }
+    }
+
+    private static void tellWrong(String what) {
+        wrong++;
+        System.out.println(what + (sentence.isEmpty() ? "" : " [" + sentence + "]"));
     }
 
     /** A call that has to throw just this exception. */
@@ -32,18 +42,24 @@ final class Bench {
         checks++;
         try {
             int got = call.run();
-            wrong++;
-            System.out.println(what + " answered " + got + ", due is " + want.getSimpleName());
+            tellWrong(what + " answered " + got + ", due is " + want.getSimpleName());
         } catch (RuntimeException e) {
             if (e.getClass() != want) {
-                wrong++;
-                System.out.println(what + " threw " + e + ", due is " + want.getSimpleName());
+                tellWrong(what + " threw " + e + ", due is " + want.getSimpleName());
             }
         }
     }
 
     static void dueIndex(String what, Call call) {
         dueThrow(what, IndexOutOfBoundsException.class, call);
+    }
+
+    static void dueState(String what, Call call) {
+        dueThrow(what, IllegalStateException.class, call);
+    }
+
+    static void dueArgument(String what, Call call) {
+        dueThrow(what, IllegalArgumentException.class, call);
     }
 
     /** The last line of every test's main. */
@@ -63,7 +79,9 @@ final class Bench {
                 words[i / 4] |= (bytes[from + i] & 255) << (24 - i % 4 * 8);
             }
             forge.feed(words[0], words[1], words[2], words[3]);
-            forge.end(Math.max(0, from + 16 - bytes.length));
+            if (from + 16 > bytes.length) {
+                forge.end(from + 16 - bytes.length);
+            }
         }
     }
 

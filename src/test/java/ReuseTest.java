@@ -1,6 +1,6 @@
 /** Promises 4, 11 and 14: nothing of what was there before clear() or a fault comes back. */
 public final class ReuseTest {
-    private static final int ROUNDS = 12;
+    private static final String SMALL = "x: la $4,u\n";
 
     public static void main(String[] args) {
         behindEight();
@@ -8,31 +8,25 @@ public final class ReuseTest {
         Bench.close("ReuseTest");
     }
 
-    /** So many rounds that every place of an object has been used before. */
+    /** Every place that an object can have has been used by another one before. */
     private static void behindEight() {
-        Bench bench = new Bench();
-        for (int round = 0; round < ROUNDS; round++) {
-            int many = round % 2 == 0 ? 8 : 1;
-            for (int o = 0; o < many; o++) {
-                Bench.due("object", bench.make(big(o)), o);
+        for (int o = 0; o < 8; o++) {
+            Bench bench = new Bench();
+            for (int i = 0; i < 8; i++) {
+                Bench.due("object", bench.make(big(i)), i);
             }
-            Bench.due("link", bench.forge.link(0), many == 8 ? 320 : 40);
-            Bench.due("clear", bench.forge.clear(), many);
-            Bench.due("small", bench.make("x: la $4,u\n.globl x\n"), 0);
-            dueSmall(bench);
-            for (int o = 0; o < 8; o++) {
-                Bench.due("one more", bench.make("b g" + o + "\n"), 1);
-                Bench.due("link", bench.forge.link(0), ObjectForge.NONE);
-                Bench.due("fault", bench.forge.fault(2), 2);
-                Bench.due("object of it", bench.forge.fault(3), 0);
-                bench.forge.clear();
-                Bench.due("another", bench.make("x: b g" + o), 0);
-                Bench.due("link of it", bench.forge.link(0), ObjectForge.NONE);
-                Bench.due("symbol of it", bench.forge.fault(4), 1);
-                bench.forge.clear();
-                bench.make("x: la $4,u\n.globl x\n");
+            Bench.due("link", bench.forge.link(0), 8 * 40);
+            Bench.due("clear", bench.forge.clear(), 8);
+            for (int i = 0; i <= o; i++) {
+                Bench.due("small", bench.make(SMALL), i);
             }
-            Bench.due("clear", bench.forge.clear(), 1);
+            dueSmall(bench, o);
+            bench.forge.clear();
+            Bench.due("small again", bench.make(SMALL.replace("u", "g" + o)), 0);
+            Bench.due("link", bench.forge.link(0), ObjectForge.NONE);
+            Bench.due("fault", bench.forge.fault(2), 2);
+            Bench.due("object of it", bench.forge.fault(3), 0);
+            Bench.due("symbol of it", bench.forge.fault(4), 1);
         }
     }
 
@@ -42,26 +36,26 @@ public final class ReuseTest {
                 + ".bss\n.space 16\n";
     }
 
-    private static void dueSmall(Bench bench) {
+    private static void dueSmall(Bench bench, int o) {
         ObjectForge forge = bench.forge;
-        Bench.due("text", forge.size(0, 0), 8);
-        Bench.due("data", forge.size(0, 1), 0);
-        Bench.due("bss", forge.size(0, 2), 0);
-        Bench.due("symbols", forge.count(2, 0), 2);
-        bench.dueSymbol(0, 0, "x", 0, 0, 1);
-        bench.dueSymbol(0, 1, "u", -1, 0, 0);
-        Bench.due("relocations", forge.count(3, 0), 2);
-        bench.dueRelocation(0, 0, 0, 0, 5, 1, 0);
-        bench.dueRelocation(0, 1, 0, 4, 6, 1, 0);
+        Bench.due("text", forge.size(o, 0), 8);
+        Bench.due("data", forge.size(o, 1), 0);
+        Bench.due("bss", forge.size(o, 2), 0);
+        Bench.due("symbols", forge.count(2, o), 2);
+        bench.dueSymbol(o, 0, "x", 0, 0, 0);
+        bench.dueSymbol(o, 1, "u", -1, 0, 0);
+        Bench.due("relocations", forge.count(3, o), 2);
+        bench.dueRelocation(o, 0, 0, 0, 5, 1, 0);
+        bench.dueRelocation(o, 1, 0, 4, 6, 1, 0);
     }
 
     private static void behindFaults() {
         Bench bench = new Bench();
-        for (int round = 0; round < ROUNDS; round++) {
+        for (int round = 0; round < 8; round++) {
             Bench.due("fault", bench.make(big(round) + ".data\n@"), ObjectForge.NONE);
             Bench.due("no line more", bench.forge.fault(1), 10);
-            Bench.due("object", bench.make("x: la $4,u\n.globl x\n"), 0);
-            dueSmall(bench);
+            Bench.due("object", bench.make(SMALL), 0);
+            dueSmall(bench, 0);
             bench.forge.clear();
         }
     }

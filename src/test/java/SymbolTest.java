@@ -3,9 +3,7 @@ public final class SymbolTest {
     public static void main(String[] args) {
         numbers();
         names();
-        wrongSymbols();
         relocations();
-        wrongRelocations();
         Bench.close("SymbolTest");
     }
 
@@ -45,32 +43,14 @@ public final class SymbolTest {
         Bench.due("twins", twins.forge.count(2, 0), 4);
         twins.dueSymbol(0, 1, "BB", 0, 0, 0);
         twins.dueSymbol(0, 3, "BBAa", 0, 0, 0);
-        ObjectForge forge = bench.forge;
-        Bench.dueIndex("letter behind", () -> forge.letter(0, 0, 5));
-        Bench.dueIndex("letter behind the longest", () -> forge.letter(0, 1, 24));
-        Bench.dueIndex("letter ahead", () -> forge.letter(0, 0, -1));
-        Bench.dueIndex("letter of no symbol", () -> forge.letter(0, 4, 0));
-        Bench.dueIndex("letter of symbol -1", () -> forge.letter(0, -1, 0));
-        Bench.dueIndex("letter of no object", () -> forge.letter(1, 0, 0));
-        Bench.dueIndex("letter of object -1", () -> forge.letter(-1, 0, 0));
-    }
-
-    private static void wrongSymbols() {
-        ObjectForge forge = Bench.made("a:").forge;
-        Bench.dueIndex("symbol 1", () -> forge.symbol(0, 1, 0));
-        Bench.dueIndex("symbol -1", () -> forge.symbol(0, -1, 0));
-        Bench.dueIndex("what 4", () -> forge.symbol(0, 0, 4));
-        Bench.dueIndex("what -1", () -> forge.symbol(0, 0, -1));
-        Bench.dueIndex("object 1", () -> forge.symbol(1, 0, 0));
-        Bench.dueIndex("object -1", () -> forge.symbol(-1, 0, 0));
     }
 
     private static void relocations() {
         Bench bench = Bench.made(".data\n.word x-1\n.text\nx: jal y+8\nla $4,x\n.word y\n.data\n"
                 + ".word 5,z\n.text\nb z-4\nb x\nsw $4,z\nb x\n.data\n.word z+12\n.globl z\n");
         int[][] due = {{1, 0, 2, 0, -1}, {0, 0, 4, 1, 8}, {0, 4, 5, 0, 0}, {0, 8, 6, 0, 0},
-            {0, 12, 2, 1, 0}, {1, 8, 2, 2, 0}, {0, 16, 10, 2, -4}, {0, 24, 5, 2, 0}, {0, 28, 6, 2, 0},
-            {1, 12, 2, 2, 12}};
+            {0, 12, 2, 1, 0}, {1, 8, 2, 2, 0}, {0, 16, 10, 2, -4}, {0, 24, 5, 2, 0},
+            {0, 28, 6, 2, 0}, {1, 12, 2, 2, 12}};
         Bench.due("relocations", bench.forge.count(3, 0), due.length);
         for (int k = 0; k < due.length; k++) {
             bench.dueRelocation(0, k, due[k]);
@@ -81,15 +61,5 @@ public final class SymbolTest {
             Bench.due("word " + i, bench.wordOf(0, 0, 4 * i), words[i]);
         }
         Bench.due("the field of a WORD", bench.wordOf(0, 1, 0), 0);
-    }
-
-    private static void wrongRelocations() {
-        ObjectForge forge = Bench.made("j x").forge;
-        Bench.dueIndex("relocation 1", () -> forge.relocation(0, 1, 0));
-        Bench.dueIndex("relocation -1", () -> forge.relocation(0, -1, 0));
-        Bench.dueIndex("what 5", () -> forge.relocation(0, 0, 5));
-        Bench.dueIndex("what -1", () -> forge.relocation(0, 0, -1));
-        Bench.dueIndex("object 1", () -> forge.relocation(1, 0, 0));
-        Bench.dueIndex("object -1", () -> forge.relocation(-1, 0, 0));
     }
 }
