@@ -27,6 +27,8 @@ public final class LinkTest {
         branchRests();
         branchesBy32Bits();
         everyObject();
+        fullObject();
+        zerosBetween();
         doubles();
         doublesNotOfUndefined();
         nones();
@@ -211,6 +213,18 @@ public final class LinkTest {
         Bench.due("y of 2", bench.forge.address(2, 0), y);
         Bench.due("x of 3", bench.forge.address(3, 0), x);
         Bench.due("y of 3", bench.forge.address(3, 1), y);
+        // Whatever numbers the two have.
+        bench = of("j a\nla $4,c\n.word b,c,a,d", "nop\n.globl d,c\na: c: nop\nd: nop",
+                "x: nop\n.globl b\nb: y: nop\n.globl a\na: nop\nnop");
+        dueLink(bench, 0, 56);
+        Bench.due("a", bench.forge.address(0, 0), 0x30);
+        Bench.due("c", bench.forge.address(0, 1), 0x20);
+        Bench.due("b", bench.forge.address(0, 2), 0x2C);
+        Bench.due("d", bench.forge.address(0, 3), 0x24);
+        dueWord(bench, 12, 0x2C);
+        dueWord(bench, 16, 0x20);
+        dueWord(bench, 20, 0x30);
+        dueWord(bench, 24, 0x24);
         // Each object's own label is its own, GLOBAL or not.
         bench = of("x: .word x", "nop\n.globl x\nx: .word x", ".word x", ".word 0\nx: .word x");
         dueLink(bench, 0, 24);
@@ -387,6 +401,45 @@ public final class LinkTest {
             dueWord(bench, 0x800 + 4 * i, 0x800 + 4 * ((i + 1) % 8));
             Bench.due("address", bench.forge.address(i, 0), 0x800 + 4 * i);
             Bench.due("the other", bench.forge.address(i, 1), 0x800 + 4 * ((i + 1) % 8));
+        }
+    }
+
+    /** Every limit of an object at once: symbols, relocations, bytes. */
+    private static void fullObject() {
+        Bench.about("Links all objects (64 symbols, 256 relocations, 4,096 bytes)");
+        StringBuilder text = new StringBuilder();
+        for (int i = 0; i < 63; i++) {
+            text.append('s').append(i).append(':');
+        }
+        text.append(" .space 3072\nlast: .globl last,s5\n.word s5,last");
+        for (int i = 2; i < 256; i++) {
+            text.append(",s0");
+        }
+        Bench bench = of(text.toString(), "nop\nj s5\n.word last");
+        Bench.due("symbols", bench.forge.count(2, 0), 64);
+        Bench.due("relocations", bench.forge.count(3, 0), 256);
+        Bench.due("bytes", bench.forge.size(0, 0), 4096);
+        dueLink(bench, 0x10000, 4096 + 16);
+        Bench.due("last", bench.forge.address(0, 63), 0x10000 + 3072);
+        dueWord(bench, 0x10000 + 3072, 0x10000);
+        dueWord(bench, 0x10000 + 3076, 0x10000 + 3072);
+        dueWord(bench, 0x10000 + 4092, 0x10000);
+        dueWord(bench, 0x10000 + 4100, 0x08004000);
+        dueWord(bench, 0x10000 + 4104, 0x10000 + 3072);
+    }
+
+    /** What is between sections and in BSS is 0, whatever another image had there. */
+    private static void zerosBetween() {
+        Bench.about("The word at an address of the image (BSS, and what is between)");
+        Bench bench = of(".word -1,-1,-1,-1,-1,-1,-1,-1,-1,-1");
+        dueLink(bench, 0, 40);
+        bench.forge.clear();
+        bench.make(".word 1\n.data\n.byte 2\n.bss\n.space 3");
+        bench.make(".data\n.byte 3\n.bss\n.space 8");
+        dueLink(bench, 0, 40);
+        int[] due = {1, 0, 0x02000000, 0, 0x03000000, 0, 0, 0, 0, 0};
+        for (int i = 0; i < due.length; i++) {
+            dueWord(bench, 4 * i, due[i]);
         }
     }
 

@@ -197,9 +197,9 @@ public final class OperandTest {
             }
         }
         for (String name : new String[] {"subi", "subiu", "abs", "mulo", "cvt.s", "cvt.w.w",
-            "cvt.s.s", "trunc.s", "c.eq", "c.eq.w", "c.xx.s", "add.w", "sqrt", "nopp", "no",
-            "bltz.", "l", "lwu", "bc1", "bc2t", "ror", "seb", "ext", ".long", ".text.", ".glob", ".", "_",
-            ".asci", "a", "jalr.hb", "ld", "sd", "dadd", "movf", "pref", "cache", "eret", "wait"}) {
+            "cvt.s.s", "trunc.s", "c.eq", "c.eq.w", "c.xx.s", "add.w", "sqrt", "nopp", "no", "l",
+            "bltz.", "lwu", "bc1", "bc2t", "ror", "seb", "ext", ".long", ".text.", ".glob", ".",
+            ".asci", "a", "_", "jalr.hb", "ld", "sd", "dadd", "movf", "pref", "cache", "eret"}) {
             fault(name + " $1", Bench.OPERATION);
         }
     }

@@ -4,6 +4,7 @@ public final class ReuseTest {
 
     public static void main(String[] args) {
         behindEight();
+        formerSymbols();
         behindFaults();
         Bench.close("ReuseTest");
     }
@@ -21,12 +22,43 @@ public final class ReuseTest {
                 Bench.due("small", bench.make(SMALL), i);
             }
             dueSmall(bench, o);
+            for (String former : new String[] {"g" + o, "x" + o, "u" + o}) {
+                bench.forge.clear();
+                Bench.due("small again", bench.make(SMALL.replace("u", former)), 0);
+                Bench.due("link", bench.forge.link(0), ObjectForge.NONE);
+                Bench.due("fault", bench.forge.fault(2), 2);
+                Bench.due("object of it", bench.forge.fault(3), 0);
+                Bench.due("symbol of it", bench.forge.fault(4), 1);
+            }
+        }
+    }
+
+    /** Symbols of before are neither found, nor missed, nor DOUBLE. */
+    private static void formerSymbols() {
+        for (int symbols = 0; symbols < 3; symbols++) {
+            String few = "p: q: r:".substring(0, 3 * symbols);
+            Bench bench = new Bench();
+            for (int i = 0; i < 8; i++) {
+                Bench.due("object", bench.make("p: q: r:\nj a" + i + "\n"), i);
+            }
             bench.forge.clear();
-            Bench.due("small again", bench.make(SMALL.replace("u", "g" + o)), 0);
-            Bench.due("link", bench.forge.link(0), ObjectForge.NONE);
-            Bench.due("fault", bench.forge.fault(2), 2);
-            Bench.due("object of it", bench.forge.fault(3), 0);
-            Bench.due("symbol of it", bench.forge.fault(4), 1);
+            for (int i = 0; i < 8; i++) {
+                String a = "a" + i;
+                String text = ".globl " + a + "\nj " + a + "\n" + a + ":\n";
+                Bench.due("object", bench.make(few + text + "j " + a), i);
+            }
+            Bench.due("no one is missed", bench.forge.link(0), 64);
+            bench.forge.clear();
+            Bench.due("the only one", bench.make(".globl a3\na3: nop\nnop"), 0);
+            for (int i = 1; i < 8; i++) {
+                Bench.due("object", bench.make(few), i);
+            }
+            Bench.due("none is DOUBLE", bench.forge.link(0), 8);
+            bench.forge.clear();
+            for (int i = 0; i < 8; i++) {
+                Bench.due("object", bench.make(few), i);
+            }
+            Bench.due("link of these", bench.forge.link(0), 0);
         }
     }
 
