@@ -40,6 +40,8 @@ public final class OperandTest {
         kindsOfOperands();
         missingOperands();
         operandsBehind();
+        registerFields();
+        registersOfTwoWords();
         namesAlone();
         shifts();
         codes();
@@ -175,8 +177,12 @@ public final class OperandTest {
         for (String[] form : FORMS) {
             for (String name : form[1].split(" ")) {
                 String whole = line(name, form[0], -1, "");
-                for (String more : new String[] {" $1", ",", " (", " \"a\"", " x", " %"}) {
+                for (String more : new String[] {" $1", ",", " (", " \"a\"", " x", " %", ",6", ",x",
+                    ",6($1)", ",$f1"}) {
                     fault(whole + more, Bench.OPERANDS);
+                }
+                if (!form[0].isEmpty()) {
+                    fault(whole + " 6", Bench.OPERANDS);
                 }
                 fault(whole + " @", Bench.BYTE);
             }
@@ -185,6 +191,76 @@ public final class OperandTest {
             "div $1,$2,$3,$4", "add $1,$2,$3,$4", "syscall 1,2", "bc1t 1,x,x", "j x,x",
             "c.eq.s 1,$f1,$f2,$f3", "li $1,2,3", "lw $1,2($3),4", "mfhi $1,$2", "b 1,x"}) {
             fault(line, Bench.OPERANDS);
+        }
+    }
+
+    /** Where register 1 stands in the word; 0 if the operand is none. */
+    private static int fieldOf(String name, char letter) {
+        boolean counts = name.equals("clz") || name.equals("clo");
+        switch (letter) {
+            case 's': return name.equals("neg") ? 1 << 16 : 1 << 21;
+            case 't': case 'T': return 1 << 16;
+            case 'd': return counts ? 1 << 16 | 1 << 11 : 1 << 11;
+            case 'S': return 1 << 11;
+            case 'D': return 1 << 6;
+            default: return 0;
+        }
+    }
+
+    private static void registerFields() {
+        Bench.about("d s t registers for the fields rd rs rt; D S T fractions for fd fs ft");
+        for (String[] form : FORMS) {
+            for (String name : form[1].split(" ")) {
+                boolean two = Bench.made(line(name, form[0], -1, "")).forge.size(0, 0) == 8;
+                boolean loads = name.equals("li") || name.equals("la");
+                for (int i = 0; i < form[0].length() && !two && !loads; i++) {
+                    int ones = fieldOf(name, form[0].charAt(i));
+                    if (ones != 0) {
+                        dueField(name, form[0], i, ones);
+                    }
+                }
+            }
+        }
+        for (int r = 0; r < 32; r++) {
+            Bench.dueWords("lw $5,8($" + r + ")", 0x8C050008 | r << 21);
+        }
+    }
+
+    /** Every register at a place of the operation is seen in a field (or two) of the word. */
+    private static void dueField(String name, String form, int which, int ones) {
+        String register = Character.isUpperCase(form.charAt(which)) ? "$f" : "$";
+        int base = wordOf(line(name, form, which, register + 0));
+        Bench.due("field of 0 of " + name, base & 31 * ones, 0);
+        for (int r : new int[] {1, 2, 4, 8, 16, 31}) {
+            int word = wordOf(line(name, form, which, register + r));
+            Bench.due(name + " with " + register + r, word, base | r * ones);
+        }
+    }
+
+    private static void registersOfTwoWords() {
+        Bench.about("d s t registers for the fields rd rs rt (of two words)");
+        for (int r : new int[] {0, 1, 2, 4, 8, 16, 31}) {
+            int s = r << 21;
+            int t = r << 16;
+            int d = r << 11;
+            Bench.dueWords("li $" + r + ",0x12345678", 0x3C001234 | t, 0x34005678 | s | t);
+            Bench.dueWords("li $" + r + ",5\nli $" + r + ",65535\nli $" + r + ",65536",
+                    0x24000005 | t, 0x3400FFFF | t, 0x3C000001 | t);
+            Bench.dueWords("la $" + r + ",x", 0x3C000000 | t, 0x24000000 | s | t);
+            Bench.dueWords("lw $" + r + ",x", 0x3C010000, 0x8C200000 | t);
+            Bench.dueWords("swc1 $f" + r + ",x", 0x3C010000, 0xE4200000 | t);
+            Bench.dueWords("div $" + r + ",$0,$0", 0x0000001A, 0x00000012 | d);
+            Bench.dueWords("divu $0,$" + r + ",$0", 0x0000001B | s, 0x00000012);
+            Bench.dueWords("rem $0,$0,$" + r, 0x0000001A | t, 0x00000010);
+            Bench.dueWords("remu $" + r + ",$0,$0", 0x0000001B, 0x00000010 | d);
+            Bench.dueWords("blt $" + r + ",$0,x\nbge $0,$" + r + ",x",
+                    0x0000082A | s, 0x14200000, 0x0000082A | t, 0x10200000);
+            Bench.dueWords("bgt $" + r + ",$0,x\nble $0,$" + r + ",x",
+                    0x0000082A | t, 0x14200000, 0x0000082A | s, 0x10200000);
+            Bench.dueWords("bltu $" + r + ",$0,x\nbgeu $0,$" + r + ",x",
+                    0x0000082B | s, 0x14200000, 0x0000082B | t, 0x10200000);
+            Bench.dueWords("bgtu $" + r + ",$0,x\nbleu $0,$" + r + ",x",
+                    0x0000082B | t, 0x14200000, 0x0000082B | s, 0x10200000);
         }
     }
 
