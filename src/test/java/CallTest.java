@@ -11,6 +11,10 @@ public final class CallTest {
         endBounds();
         endNotSoMany();
         faultNoneWas();
+        lineWithout();
+        linkFaultLikewise();
+        objectWithout();
+        symbolWithout();
         faultOfTheLatest();
         faultAnotherWhat();
         sizeNoSuch();
@@ -27,6 +31,7 @@ public final class CallTest {
         addressNoSuch();
         addressNoImage();
         addressCameBehind();
+        addressFirstTold();
         clearAll();
         clearNothing();
         countAnotherWhat();
@@ -113,18 +118,43 @@ public final class CallTest {
         Bench.dueArgument("end 1 of a text that is used up", () -> forge.end(1));
     }
 
+    /** What fault tells before any assemble() and link(), behind a fault, and without one. */
+    private static void dueWithout(int what, int without, int with) {
+        Bench bench = new Bench();
+        Bench.due("fault " + what + ", none was", bench.forge.fault(what), without);
+        bench.make("x:\nj u");
+        Bench.due("fault " + what + ", no fault", bench.forge.fault(what), without);
+        bench.make("\n\nfoo");
+        bench.forge.link(0);
+        Bench.due("fault " + what + ", a fault", bench.forge.fault(what), with);
+        bench.make(".globl u\nu:");
+        bench.forge.link(0);
+        Bench.due("fault " + what + ", no fault again", bench.forge.fault(what), without);
+    }
+
     private static void faultNoneWas() {
-        Bench.about("0 none, or none was");
-        ObjectForge forge = new ObjectForge();
-        int[] due = {0, 0, 0, ObjectForge.NONE, ObjectForge.NONE};
-        for (int what = 0; what < due.length; what++) {
-            Bench.due("fault " + what, forge.fault(what), due[what]);
-        }
-        forge.assemble();
-        forge.link(0);
-        for (int what = 0; what < due.length; what++) {
-            Bench.due("fault " + what + " without a fault", forge.fault(what), due[what]);
-        }
+        Bench.about("Of the latest assemble() the fault (what 0; 0 none, or none was)");
+        dueWithout(0, 0, Bench.OPERATION);
+    }
+
+    private static void lineWithout() {
+        Bench.about("its line (1; 0 without)");
+        dueWithout(1, 0, 3);
+    }
+
+    private static void linkFaultLikewise() {
+        Bench.about("Of the latest link() the fault (2; 0 likewise)");
+        dueWithout(2, 0, 2);
+    }
+
+    private static void objectWithout() {
+        Bench.about("the object (3) .. (NONE without)");
+        dueWithout(3, ObjectForge.NONE, 0);
+    }
+
+    private static void symbolWithout() {
+        Bench.about("and symbol or relocation (4; NONE without)");
+        dueWithout(4, ObjectForge.NONE, 1);
     }
 
     private static void faultOfTheLatest() {
@@ -369,8 +399,6 @@ public final class CallTest {
         Bench bench = Bench.made("a: .globl a");
         ObjectForge forge = bench.forge;
         Bench.dueState("not linked", () -> forge.address(0, 0));
-        Bench.dueIndex("no symbol, told first", () -> forge.address(0, 1));
-        Bench.dueIndex("no object, told first", () -> forge.address(1, 0));
         forge.link(8);
         Bench.due("linked", forge.address(0, 0), 8);
         bench.make(".globl a\na:");
@@ -385,11 +413,24 @@ public final class CallTest {
         forge.link(16);
         Bench.due("second", bench.make("nop\nb: nop"), 1);
         Bench.dueState("of the second", () -> forge.address(1, 0));
-        Bench.dueIndex("no symbol, told first", () -> forge.address(1, 1));
         Bench.due("of the first", forge.address(0, 0), 16);
         forge.link(24);
         Bench.due("of the second, linked", forge.address(1, 0), 28);
         Bench.due("of the first, linked anew", forge.address(0, 0), 24);
+    }
+
+    private static void addressFirstTold() {
+        Bench.about("Of several exceptions the first one told is thrown (address)");
+        Bench bench = Bench.made("a:");
+        ObjectForge forge = bench.forge;
+        Bench.dueIndex("no symbol, no image", () -> forge.address(0, 1));
+        Bench.dueIndex("no object, no image", () -> forge.address(1, 0));
+        Bench.dueIndex("no object -1, no image", () -> forge.address(-1, 0));
+        forge.link(16);
+        bench.make("b:");
+        Bench.dueIndex("no symbol, came behind it", () -> forge.address(1, 1));
+        Bench.dueIndex("no symbol -1, came behind it", () -> forge.address(1, -1));
+        Bench.dueState("came behind it", () -> forge.address(1, 0));
     }
 
     private static void clearAll() {
