@@ -41,6 +41,7 @@ public final class OperandTest {
         missingOperands();
         operandsBehind();
         registerFields();
+        memoryRegisters();
         registersOfTwoWords();
         namesAlone();
         shifts();
@@ -221,8 +222,17 @@ public final class OperandTest {
                 }
             }
         }
-        for (int r = 0; r < 32; r++) {
-            Bench.dueWords("lw $5,8($" + r + ")", 0x8C050008 | r << 21);
+    }
+
+    private static void memoryRegisters() {
+        Bench.about("m either i and (s): s for the field rs");
+        for (String name : (MEMORY + " " + MEMORY_OF_FRACTIONS).split(" ")) {
+            String start = name + (name.endsWith("c1") ? " $f0,8(" : " $0,8(");
+            int base = wordOf(start + "$0)");
+            Bench.due("fields of 0 of " + name, base & 0x03FFFFFF, 8);
+            for (int r = 1; r < 32; r++) {
+                Bench.dueWords(start + "$" + r + ")", base | r << 21);
+            }
         }
     }
 
