@@ -8,6 +8,7 @@ public final class CallTest {
         newObject();
         feedFull();
         feedHighestFirst();
+        feedBehindEnd();
         endBounds();
         endNotSoMany();
         faultNoneWas();
@@ -86,6 +87,22 @@ public final class CallTest {
         for (int k = 0; k < due.length; k++) {
             Bench.due("byte " + k, forge.byteAt(0, 0, k), due[k]);
         }
+    }
+
+    private static void feedBehindEnd() {
+        Bench.about("The last n bytes go again: how many are left.");
+        ObjectForge forge = new ObjectForge();
+        // ".byte 25", 8 bytes that go, "5,1", 13 bytes that go.
+        Bench.due("feed", forge.feed(0x2E627974, 0x65203235, 0x40404040, 0x40404040), 16);
+        Bench.due("end 8", forge.end(8), 8);
+        Bench.due("feed", forge.feed(0x352C3140, 0x40404040, 0x40404040, 0x40404040), 24);
+        Bench.due("end 10", forge.end(10), 14);
+        Bench.due("end 3", forge.end(3), 11);
+        Bench.due("bytes", forge.count(0, 0), 11);
+        Bench.due("assemble", forge.assemble(), 0);
+        Bench.due("bytes of TEXT", forge.size(0, 0), 2);
+        Bench.due("first", forge.byteAt(0, 0, 0), 255);
+        Bench.due("second", forge.byteAt(0, 0, 1), 1);
     }
 
     private static void endBounds() {

@@ -644,6 +644,9 @@ public final class OperandTest {
         bench.dueRelocation(0, 0, 0, 0, 10, 0, 2);
         bench.dueRelocation(0, 1, 0, 4, 10, 1, 1);
         bench.dueRelocation(0, 2, 0, 8, 10, 2, -3);
+        // A GLOBAL one of the same TEXT is no other object's.
+        bench = Bench.dueWords(".globl t,v\nt: b t\nbeqz $4,v\nv:", 0x1000FFFF, 0x10800000);
+        Bench.due("relocations", bench.forge.count(3, 0), 0);
         // A jump within TEXT has one nevertheless, and so have words and halves.
         bench = Bench.dueWords("t: j t+8\njal t\nla $4,t\n.word t",
                 0x08000000, 0x0C000000, 0x3C040000, 0x24840000, 0);
