@@ -132,7 +132,7 @@ public final class FaultTest {
         Bench.about("a NUMBER that is none or too great");
         for (String ahead : new String[] {".word ", ".half ", ".byte 1,", ".space ", ".align ",
             "li $1,", "addiu $1,$2,", "ori $1,$2,", "lui $1,%hi(", "sll $1,$2,", "lw $1,"}) {
-            for (String none : new String[] {"-", "-2147483649", "-4294967295", "-4294967296",
+            for (String none : new String[] {"-2147483649", "-4294967295", "-4294967296",
                 "-0x", "-''", "-@"}) {
                 Bench.dueFault(ahead + none, Bench.BYTE, 1);
             }

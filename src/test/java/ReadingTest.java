@@ -39,12 +39,14 @@ public final class ReadingTest {
 
     /** Where a NUMBER can stand, a - begins one; what is behind it does not make it another. */
     private static void minusWithoutNumber() {
-        for (String text : new String[] {"-x", "-$1", "--1", "-\"a\"", "-(5)", "-%lo(5)"}) {
+        for (String text : new String[] {"-", "-x", "-$1", "--1", "-\"a\"", "-(5)", "-,"}) {
             fault(".word " + text, Bench.BYTE);
             fault("li $1," + text, Bench.BYTE);
             fault("syscall " + text, Bench.BYTE);
             fault("bc1t " + text, Bench.BYTE);
+            fault("lw $1," + text, Bench.BYTE);
         }
+        fault("lw $1,-($2)", Bench.BYTE);
     }
 
     /** A NUMBER without a sign is below 2^32, whatever stands ahead of it. */

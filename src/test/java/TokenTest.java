@@ -312,7 +312,7 @@ public final class TokenTest {
         word("-2147483648", Integer.MIN_VALUE);
         word("-0x80000000", Integer.MIN_VALUE);
         for (String none : new String[] {"-2147483649", "-0x80000001", "-4294967295", "-4294967296",
-            "-0xFFFFFFFF", "-", "-0x", "-''"}) {
+            "-0xFFFFFFFF", "-0x", "-''"}) {
             fault(".word " + none, Bench.BYTE);
             fault("li $1," + none, Bench.BYTE);
             fault(".byte 1," + none, Bench.BYTE);
