@@ -7,6 +7,7 @@ public final class CallTest {
     public static void main(String[] args) {
         newObject();
         feedFull();
+        fullTextToTheEnd();
         feedHighestFirst();
         feedBehindEnd();
         endBounds();
@@ -73,6 +74,21 @@ public final class CallTest {
         Bench.due("assemble", forge.assemble(), ObjectForge.NONE);
         Bench.due("fault", forge.fault(0), Bench.BYTE);
         Bench.due("all lines were kept", forge.fault(1), 8180);
+    }
+
+    /** Beyond 512 calls, too: all of a full text is read. */
+    private static void fullTextToTheEnd() {
+        Bench.about("there would be more than 8,192. (but all of these are read)");
+        Bench bench = new Bench();
+        for (int i = 1; i < 512; i++) {
+            bench.forge.feed(0x20202020, 0x20202020, 0x20202020, 0x20202020);
+        }
+        bench.feed("j first\nj second");
+        Bench.due("bytes", bench.forge.count(0, 0), 8192);
+        Bench.due("assemble", bench.forge.assemble(), 0);
+        Bench.due("symbols", bench.forge.count(2, 0), 2);
+        bench.dueSymbol(0, 0, "first", -1, 0, 0);
+        bench.dueSymbol(0, 1, "second", -1, 0, 0);
     }
 
     private static void feedHighestFirst() {

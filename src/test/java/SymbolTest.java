@@ -43,6 +43,15 @@ public final class SymbolTest {
         Bench.due("twins", twins.forge.count(2, 0), 4);
         twins.dueSymbol(0, 1, "BB", 0, 0, 0);
         twins.dueSymbol(0, 3, "BBAa", 0, 0, 0);
+        // And the same of names of unlike lengths, one of them the other's beginning.
+        String[] names = {"zqjdwzd", "djgsnymq", "twinbdsbhgiq", "twin"};
+        Bench unlike = Bench.made("zqjdwzd: djgsnymq: twinbdsbhgiq: twin:");
+        for (int k = 0; k < names.length; k++) {
+            unlike.dueSymbol(0, k, names[k], 0, 0, 0);
+        }
+        unlike.make("j twin\n.globl twinbdsbhgiq\ntwinbdsbhgiq:");
+        Bench.due("link", unlike.forge.link(0), ObjectForge.NONE);
+        Bench.due("no one has it", unlike.forge.fault(2), 2);
     }
 
     private static void relocations() {
