@@ -456,15 +456,15 @@ public final class ObjectForge {
             return null;
         }
 
-        /** Three names stand for two operations each; the number of operands tells which. */
-        Operation withCommas(int commas) {
-            if (this == JALR && commas == 0) {
+        /** Three names stand for two operations each; a comma behind the fewer operands tells. */
+        Operation ofOperands(Source source, int first) {
+            if (this == JALR && source.kindOf(first + 1) != ',') {
                 return JALR_ALONE;
             }
-            if (this == DIV && commas >= 2) {
+            if (this == DIV && source.kindOf(first + 3) == ',') {
                 return DIV_INTO;
             }
-            if (this == DIVU && commas >= 2) {
+            if (this == DIVU && source.kindOf(first + 3) == ',') {
                 return DIVU_INTO;
             }
             return this;
@@ -577,14 +577,12 @@ public final class ObjectForge {
             return token >= 0 && token < tokens ? values[token] & 0xFFFFFFFFL : 0;
         }
 
-        int commas() {
-            int found = 0;
-            for (int i = 0; i < tokens; i++) {
-                if (kinds[i] == ',') {
-                    found++;
-                }
-            }
-            return found;
+        /** Whether a token is the beginning of a NUMBER, even of one that is none. */
+        boolean beginsNumber(int token) {
+            int kind = kindOf(token);
+            int first = byteOrNone(startOf(token));
+            return kind == NUMBER || kind == '-'
+                    || kind == BAD && (isDigit(first) || first == '\'');
         }
 
         boolean spells(int token, String spelling) {
@@ -1032,7 +1030,7 @@ public final class ObjectForge {
             if (directive != null) {
                 readDirective(directive);
             } else if (operation != null) {
-                readInstruction(operation.withCommas(source.commas()));
+                readInstruction(operation.ofOperands(source, cursor));
             } else {
                 fault = FAULT_OPERATION;
             }
@@ -1219,7 +1217,7 @@ public final class ObjectForge {
             boolean behindOne = false;
             for (int i = 0; i < operation.operands.length() && fault == 0; i++) {
                 char letter = operation.operands.charAt(i);
-                if (isOptional(letter) && !isNumberAhead()) {
+                if (isOptional(letter) && !source.beginsNumber(cursor)) {
                     continue;
                 }
                 if (behindOne) {
@@ -1239,11 +1237,6 @@ public final class ObjectForge {
 
         private static boolean isOptional(char letter) {
             return letter == 'c' || letter == 'k' || letter == 'q';
-        }
-
-        private boolean isNumberAhead() {
-            int kind = source.kindOf(cursor);
-            return kind == Source.NUMBER || kind == '-';
         }
 
         private void readRegister(char letter) {

@@ -241,6 +241,17 @@ public final class FaultTest {
         Bench.dueFault(".space 4095\n.byte 1,256", Bench.RANGE, 2);
         Bench.dueFault(".space 4092\n.word 1,@,2", Bench.BYTE, 2);
         Bench.dueFault(".space 4095\n.align 4", Bench.RANGE, 2);
+        // Operands that may be missing, but are there.
+        for (String line : new String[] {"syscall 1048576", "break -1"}) {
+            Bench.dueFault(full + line, Bench.RANGE, 2);
+        }
+        for (String line : new String[] {"syscall 4294967296", "syscall 0x", "break 'ab'",
+            "break -4294967295", "jalr $1,@", "div $1,$2,$32", "divu $1,$2,@"}) {
+            Bench.dueFault(full + line, Bench.BYTE, 2);
+        }
+        for (String line : new String[] {"jalr $1,", "jalr $1,5", "div $1,$2,", "divu $1,$2,5"}) {
+            Bench.dueFault(full + line, Bench.OPERANDS, 2);
+        }
     }
 
     private static void manyBytesAheadOfTheRest() {
@@ -265,6 +276,12 @@ public final class FaultTest {
         Bench.dueFault(full + "nop @", Bench.MANY, 2);
         Bench.dueFault(full + "nop 5", Bench.MANY, 2);
         Bench.dueFault(full + "x: nop", Bench.MANY, 2);
+        for (String line : new String[] {"syscall", "break 5 @", "syscall 5,6", "jalr $1 @",
+            "jalr $1 $2,$3", "jalr $1,$2,$3", "div $1,$2 @", "divu $1,$2 $3,$4",
+            "div $1,$2,$3,$4"}) {
+            Bench.dueFault(full + line, Bench.MANY, 2);
+        }
+        Bench.dueFault(".space 4092\nrem $1,$2,$3 @", Bench.MANY, 2);
     }
 
     private static void sixtyFourSymbols() {

@@ -12,6 +12,7 @@ public final class ReadingTest {
         namesAheadOfBrackets();
         rangeOfNumbersAsTold();
         flagsThatAreTooGreat();
+        noCodeBehindSyscall();
         emptyLastBss();
         unevenTexts();
         faultsBehindClear();
@@ -83,6 +84,13 @@ public final class ReadingTest {
         fault("bc1t 8", Bench.RANGE);
         fault("bc1t -4", Bench.RANGE);
         fault("c.eq.s -1,$f5", Bench.RANGE);
+    }
+
+    /** What begins no NUMBER is no c: it stands behind a syscall without one, and behind MANY. */
+    private static void noCodeBehindSyscall() {
+        for (String rest : new String[] {"@", "x", "$1", ",", "\"5\"", "\"5", "+5", "(5)"}) {
+            Bench.dueFault(".space 4096\nsyscall " + rest, Bench.MANY, 2);
+        }
     }
 
     private static void dueSize(int due, String... texts) {
